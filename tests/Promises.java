@@ -983,6 +983,29 @@ public final class Promises {
     due("35: no more", y.redo(), STATE);
   }
 
+  private static void undoingMany() {
+    DustInOrder x = withSills(0, 0, 0, 0, 0, 0);
+    int[][] numbers = {{0, 0}, {1, 1}, {4, 2}, {2, 0}, {0, 3}, {5, 2}, {2, 1}};
+    int[][] changes = new int[47][];
+    for (int i = 0; i < changes.length; i++) {
+      int[] number = numbers[i % numbers.length];
+      int was = x.of(number[0], number[1]);
+      int v = (was + 1 + i % 3) % (number[1] == 3 ? 4 : 10);
+      changes[i] = new int[] {number[0], number[1], was, v};
+      due("4: mended", x.mend(number[0], number[1], v), was);
+    }
+    for (int i = changes.length - 1; i >= 7; i--) {
+      due("34: many", x.undo(), i - 7);
+      due("34: it was", x.of(changes[i][0], changes[i][1]), changes[i][2]);
+    }
+    due("34: 40 are kept", x.undo(), STATE);
+    for (int i = 7; i < changes.length; i++) {
+      due("35: many", x.redo(), changes.length - 1 - i);
+      due("35: it is", x.of(changes[i][0], changes[i][1]), changes[i][3]);
+    }
+    due("35: all done", x.redo(), STATE);
+  }
+
   // ---- 36 to 45: acts, shelves
 
   private static void bodies() {
@@ -1265,6 +1288,7 @@ public final class Promises {
     blowAndSweep();
     images();
     undoing();
+    undoingMany();
     bodies();
     acts();
     noActs();

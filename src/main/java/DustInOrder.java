@@ -92,7 +92,7 @@ public final class DustInOrder {
     }
     int was = numberOf(number, what);
     if (was != v) {
-      changes.record(number, what, was, v);
+      changes.keepNew(number, what, was, v);
       setNumber(number, what, v);
     }
     return was;
@@ -458,12 +458,9 @@ public final class DustInOrder {
   }
 
   public int image() {
-    for (int i = 0; i < SILLS; i++) {
-      if (i < sillsHere) {
-        kept.dust[i].become(house[i].dust);
-      } else {
-        kept.dust[i].layers = 0;
-      }
+    // no SILL ever goes, so those that are not here yet are bare in every image
+    for (int i = 0; i < sillsHere; i++) {
+      kept.dust[i].become(house[i].dust);
     }
     System.arraycopy(ledger, 0, kept.ledger, 0, LEDGER);
     kept.isThere = true;
@@ -1444,7 +1441,7 @@ public final class DustInOrder {
     int done;
     int known;
 
-    void record(int ofNumber, int ofWhat, int before, int behind) {
+    void keepNew(int ofNumber, int ofWhat, int before, int behind) {
       if (done >= CHANGES) {
         dropOldest();
       }
