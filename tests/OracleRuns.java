@@ -1,5 +1,6 @@
 import java.util.ArrayList;
 import java.util.Arrays;
+import java.util.Collections;
 import java.util.HashMap;
 import java.util.List;
 import java.util.Map;
@@ -12,6 +13,7 @@ import java.util.Random;
  */
 public final class OracleRuns {
   static final int BAD = -1, NOT = -2, FULL = -3, STATE = -5;
+  static final int CALLS = 512;
 
   // ---- the model
 
@@ -1215,7 +1217,7 @@ public final class OracleRuns {
   }
 
   static void sillCalls(DustInOrder x, Model m, int which) {
-    int a = arg(9), b = arg(9), c = arg(9), s = oneOf(x.count(0)), l = arg(65), h = arg(5), n = arg(9);
+    int a = arg(9), b = arg(9), c = arg(9), s = oneOf(m.sills.size()), l = arg(65), h = arg(5), n = arg(9);
     switch (which) {
       case 0:
         a = random.nextInt(3) == 0 ? a : 0;
@@ -1274,13 +1276,13 @@ public final class OracleRuns {
     int shelf = upTo(5), n = upTo(12), judged = upTo(3) == 0 ? upTo(4) : -1;
     same(told("row", shelf, 0, n), x.row(shelf, 0, n), m.row(shelf, 0, n));
     for (int i = 0; i < n; i++) {
-      int v = judged >= 0 && x.layer(judged, i, 0) >= 0 ? x.layer(judged, i, 0) : arg(65);
+      int v = judged >= 0 && m.layer(judged, i, 0) >= 0 ? m.layer(judged, i, 0) : arg(65);
       same(told("put", shelf, i, v), x.put(shelf, i, v), m.put(shelf, i, v));
     }
   }
 
   static void thoughtCalls(DustInOrder x, Model m, int which) {
-    int a = arg(9), n = arg(40), s = oneOf(x.count(0)), h = arg(5), w = arg(5), what = arg(4), half = arg(1);
+    int a = arg(9), n = arg(40), s = oneOf(m.sills.size()), h = arg(5), w = arg(5), what = arg(4), half = arg(1);
     switch (which) {
       case 0:
         same(told("later", h, n, s, what), x.later(h, n, s, what), m.later(h, n, s, what));
@@ -1314,8 +1316,8 @@ public final class OracleRuns {
   }
 
   static void readCalls(DustInOrder x, Model m, int which) {
-    int n = arg(9), s = oneOf(x.count(0)), k = arg(9), w = arg(5), h = arg(5), half = arg(1);
-    int ab = 10 * s + oneOf(x.count(0));
+    int n = arg(9), s = oneOf(m.sills.size()), k = arg(9), w = arg(5), h = arg(5), half = arg(1);
+    int ab = 10 * s + oneOf(m.sills.size());
     switch (which) {
       case 0:
         same(told("ways", s, n), x.ways(s, n), m.ways(s, n));
@@ -1355,7 +1357,7 @@ public final class OracleRuns {
   }
 
   static void deedCalls(DustInOrder x, Model m, int which) {
-    int l = arg(65), s = oneOf(x.count(0)), n = arg(99), what = arg(4);
+    int l = arg(65), s = oneOf(m.sills.size()), n = arg(99), what = arg(4);
     switch (which) {
       case 0:
         same(told("look", l), x.look(l), m.look(l));
@@ -1386,7 +1388,7 @@ public final class OracleRuns {
   }
 
   static void shelfCalls(DustInOrder x, Model m, int which) {
-    int h = arg(5), o = arg(5), b = oneOf(x.count(3)), k = arg(7), act = arg(3), i = arg(14), j = arg(14), n = arg(7);
+    int h = arg(5), o = arg(5), b = oneOf(m.bodies.size()), k = arg(7), act = arg(3), i = arg(14), j = arg(14), n = arg(7);
     int v = random.nextInt(3) == 0 ? random.nextInt() : random.nextInt(70) - 2;
     switch (which) {
       case 0:
@@ -1428,72 +1430,88 @@ public final class OracleRuns {
     }
   }
 
-  /** All that can be read of the state. */
-  static void whole(DustInOrder x, Model m) {
+  /** What can be read of the state: as many answers as are left of the 512 calls, others in each run. */
+  static void whole(DustInOrder x, Model m, int left) {
+    List<Runnable> questions = new ArrayList<>();
     for (int s = -1; s <= 5; s++) {
-      for (int what = -1; what <= 6; what++) {
-        same(told("of", s, what), x.of(s, what), m.of(s, what));
+      int sill = s;
+      for (int w = -1; w <= 6; w++) {
+        int what = w;
+        questions.add(() -> same(told("of", sill, what), x.of(sill, what), m.of(sill, what)));
       }
-      for (int k = 0; k <= 12; k++) {
-        same(told("layer", s, k, 0), x.layer(s, k, 0), m.layer(s, k, 0));
-        same(told("layer", s, k, 1), x.layer(s, k, 1), m.layer(s, k, 1));
+      for (int i = 0; i <= 25; i++) {
+        int k = i / 2, what = i % 2;
+        questions.add(() -> same(told("layer", sill, k, what), x.layer(sill, k, what), m.layer(sill, k, what)));
       }
-    }
-    for (int what = 0; what <= 4; what++) {
-      same(told("led", what), x.led(what), m.led(what));
-      same(told("count", what), x.count(what), m.count(what));
     }
     for (int i = 0; i < 11; i++) {
-      same(told("trace", i), x.trace(i), m.trace(i));
+      int what = i;
+      questions.add(() -> same(told("led", what), x.led(what), m.led(what)));
+      questions.add(() -> same(told("count", what), x.count(what), m.count(what)));
+      questions.add(() -> same(told("trace", what), x.trace(what), m.trace(what)));
     }
     for (int h = 0; h < 6; h++) {
-      same(told("taken", h, 0), x.taken(h, 0), m.taken(h, 0));
-      for (int i = 0; i < 60; i++) {
-        same(told("element", h, i), x.element(h, i), m.element(h, i));
+      int shelf = h;
+      questions.add(() -> same(told("taken", shelf, 0), x.taken(shelf, 0), m.taken(shelf, 0)));
+      for (int i = 0; i < 15; i++) {
+        int place = i;
+        questions.add(() -> same(told("element", shelf, place), x.element(shelf, place), m.element(shelf, place)));
       }
+    }
+    Collections.shuffle(questions, random);
+    for (int i = 0; i < left; i++) {
+      questions.get(i).run();
     }
   }
 
+  /** 512 calls on one house, as that is what it is used for. */
   static void run(int seed) {
     random = new Random(seed);
     DustInOrder x = new DustInOrder();
     Model m = new Model();
     int deeds = random.nextInt(20), sillShare = random.nextInt(12);
     int before = wrong;
+    long first = asked;
     for (int i = random.nextInt(4); i > 0; i--) {
       int high = upTo(9), draught = upTo(9);
       same(told("sill", high, draught), x.sill(high, draught), m.sill(high, draught));
     }
-    for (int call = 0; call < 300; call++) {
-      int which = random.nextInt(40 + deeds);
-      if (random.nextInt(60) == 0 && x.count(0) > 0) {
-        // a few days on a swept SILL, so that some way may lead there
-        int swept = random.nextInt(x.count(0));
-        same(told("sweep", swept), x.sweep(swept), m.sweep(swept));
-        for (int i = upTo(9); i > 0; i--) {
-          deedCalls(x, m, 0);
-        }
-        for (int i = 0; i < 4; i++) {
-          readCalls(x, m, i);
-        }
-      }
-      if (which < 10) {
-        sillCalls(x, m, which == 0 && random.nextInt(12) > sillShare ? 7 : which);
-      } else if (which < 18) {
-        thoughtCalls(x, m, which - 10);
-      } else if (which < 28) {
-        readCalls(x, m, which - 18);
-      } else if (which < 30) {
-        deedCalls(x, m, random.nextInt(8));
-      } else if (which < 40) {
-        shelfCalls(x, m, which - 30);
-      } else {
+    // one turn asks 135 at most: a text of 120 bytes, days on a swept SILL ahead of it
+    while (asked - first <= CALLS - 135) {
+      turn(x, m, deeds, sillShare);
+    }
+    whole(x, m, (int) (CALLS - (asked - first)));
+    if (wrong != before || asked - first != CALLS) {
+      wrong += asked - first != CALLS ? 1 : 0;
+      System.out.println("that was run " + seed + " of " + (asked - first) + " calls");
+    }
+  }
+
+  static void turn(DustInOrder x, Model m, int deeds, int sillShare) {
+    int which = random.nextInt(40 + deeds);
+    if (random.nextInt(60) == 0 && m.sills.size() > 0) {
+      // a few days on a swept SILL, so that some way may lead there
+      int swept = random.nextInt(m.sills.size());
+      same(told("sweep", swept), x.sweep(swept), m.sweep(swept));
+      for (int i = upTo(9); i > 0; i--) {
         deedCalls(x, m, 0);
       }
+      for (int i = 0; i < 4; i++) {
+        readCalls(x, m, i);
+      }
     }
-    whole(x, m);
-    if (wrong != before) {
-      System.out.println("that was run " + seed);
+    if (which < 10) {
+      sillCalls(x, m, which == 0 && random.nextInt(12) > sillShare ? 7 : which);
+    } else if (which < 18) {
+      thoughtCalls(x, m, which - 10);
+    } else if (which < 28) {
+      readCalls(x, m, which - 18);
+    } else if (which < 30) {
+      deedCalls(x, m, random.nextInt(8));
+    } else if (which < 40) {
+      shelfCalls(x, m, which - 30);
+    } else {
+      deedCalls(x, m, 0);
     }
   }
 
@@ -1518,7 +1536,7 @@ public final class OracleRuns {
   }
 
   public static void main(String[] args) {
-    int runs = args.length > 0 ? Integer.parseInt(args[0]) : 400;
+    int runs = args.length > 0 ? Integer.parseInt(args[0]) : 800;
     for (int seed = 0; seed < runs; seed++) {
       run(seed);
     }

@@ -65,6 +65,33 @@ public final class ShelfEdges {
     return kind == 4 ? (int) plain ^ 5 : kind == 5 ? plain + 1 : plain;
   }
 
+  // "1 lies: x + n" to "81 lies: super.lies(x) - 1", each worked out by hand for x 5, where the number is the KIND
+  private static void byHand() {
+    int[][] liesReadsFallsTells = {
+      // 5 + 0; twice that; 5 ^ 0; 10 - (1 ^ 0)
+      {5, 10, 5, 9},
+      // 5 + 1 + 3; twice that; 5 ^ 1; 18 - (1 ^ 1)
+      {9, 18, 4, 18},
+      // 5 + 2; less twice that; 5 ^ 2; -14 - (1 ^ 2)
+      {7, -14, 7, -17},
+      // 5 + 3; less twice (6 + 3); thrice (5 ^ 3); -18 - thrice (1 ^ 3)
+      {8, -18, 18, -24},
+      // 5 + 4 + 3; twice that; 5 ^ 4; (24 - (1 ^ 4)) ^ 5
+      {12, 24, 1, 22},
+      // 5 + 5; less twice (6 + 5); thrice (5 ^ 5) less (2 + 5); -22 - (thrice (1 ^ 5) less 7) + 1
+      {10, -22, -7, -26},
+      // twice (5 + 6); twice that; 5 ^ 6; 44 - (1 ^ 6)
+      {22, 44, 3, 37},
+      // twice (5 + 7) less 1; twice that and (2 ^ 7); 5 ^ 7; 51 - (1 ^ 7)
+      {23, 51, 2, 45}};
+    DustInOrder x = withKinds(8);
+    for (int kind = 0; kind < 8; kind++) {
+      for (int act = 0; act < 4; act++) {
+        Due.due("37: " + act + " of KIND " + kind, x.act(kind, act, 5), liesReadsFallsTells[kind][act]);
+      }
+    }
+  }
+
   // "ACTS with x (an int that wraps): 0 lies, 1 reads, 2 falls, 3 tells; n its number"
   private static void wrapping() {
     int[] xs = {0, 1, -1, 2, -2, MAX, MAX - 1, MAX - 49, MIN, MIN + 1, 1 << 30, -(1 << 30), (1 << 30) - 50, 0x2aaaaaaa,
@@ -418,6 +445,7 @@ public final class ShelfEdges {
 
   public static void main(String[] args) {
     fiftyBodies();
+    byHand();
     wrapping();
     noSuchOnes();
     traces();

@@ -198,6 +198,18 @@ public final class ThoughtEdges {
     Due.due("10: all BARE", x.later(0, 40, 0, 4), 6);
   }
 
+  // "lays so much on a SILL as THE LAW gives: nothing, if that is 0": what is lost above 99 is not BARE
+  private static void fullOnesAreNotBare() {
+    DustInOrder x = Due.grown(2, 99);
+    Due.book(x, 29, 21, 20, 11);
+    int[] want = {0, 0, 0, 1, 1};
+    for (int n = 0; n <= 4; n++) {
+      Due.due("10: 99 lie, BARE of " + n, x.later(0, n, 0, 4), want[n]);
+      Due.due("10: 99 lie, THICK behind " + n, x.later(0, n, 0, 1), n < 4 ? 99 : 100);
+    }
+    Due.due("9: so much as THE LAW gives", x.lays(0, 29), 9);
+  }
+
   // "BREATH of v (0 .. 99): so much is taken from above: WHOM is uppermost then (NOT); how many LAYERS are left"
   private static void breaths() {
     DustInOrder x = Due.grown(5, 1, 0, 10, 1, 88);
@@ -296,6 +308,27 @@ public final class ThoughtEdges {
     Due.due("14: twelve", full.of(0, 4), 12);
     Due.due("14: of 0 most lies by pressing", full.touch(0, 5, 9), 3);
     Due.due("14: one of 0 presses", full.touch(0, 0, 1), 1);
+  }
+
+  // "LOOKINGS for one (by how much: n)" lay as THE LAW gives, each by what lies there ahead of it
+  private static void touchingByText() {
+    DustInOrder x = Due.grown(0, 9);
+    Due.law(x, "k<2?n;1");
+    // the first lays n, as one LAYER lies there, the others 1 each; more than 9 must lie
+    Due.due("14: 5, then ones", x.touch(0, 1, 5), 6);
+    Due.due("14: 9, then ones", x.touch(0, 1, 9), 2);
+    Due.due("14: ones alone", x.touch(0, 1, 1), 10);
+    Due.law(x, "w=3?0;n");
+    Due.due("14: he lays nothing", x.touch(0, 3, 9), NOT);
+    Due.due("14: another does", x.touch(0, 4, 9), 2);
+    Due.law(x, "s*n");
+    Due.due("14: by this season", x.touch(0, 4, 3), NOT);
+    x.mend(0, 3, 2);
+    Due.due("14: by another season", x.touch(0, 4, 3), 2);
+    Due.law(x, "k>0?0;9");
+    Due.due("14: nothing on what lies", x.touch(0, 5, 9), NOT);
+    x.sweep(0);
+    Due.due("14: on bare", x.touch(0, 5, 0), 1);
   }
 
   // "which SILLS (bits) one is READ of now"
@@ -419,9 +452,11 @@ public final class ThoughtEdges {
     kthOfThem();
     ofWhomMost();
     bareOnes();
+    fullOnesAreNotBare();
     breaths();
     clearing();
     touching();
+    touchingByText();
     tellers();
     fewestSills();
     fewestLikeOnes();

@@ -1141,7 +1141,7 @@ public final class DustInOrder {
   /** THE TAPE, and how a TEXT is read from it. */
   private static final class Tape {
     // the parts of a TEXT by how tightly their signs join: E, A, B, S, P; then comes O
-    static final int ANY = 0, ALL = 1, COMPARED = 2, SUM = 3, PRODUCT = 4, OPERAND = 5;
+    static final int ANY = 0, ALL = 1, COMPARED = 2, SUM = 3, PRODUCT = 4;
     static final int NONE = -1;
 
     private final int[] bytes = new int[TAPE];
@@ -1187,17 +1187,22 @@ public final class DustInOrder {
 
     /** Reads a part and its signs; open: how many of ( ! - are. */
     private void readPart(int part, int open) {
-      if (part >= OPERAND) {
-        readOperand(open);
-        return;
-      }
-      readPart(part + 1, open);
+      readTighter(part, open);
       int most = part == COMPARED ? 1 : TAPE;
       for (int i = 0; i < most && fault == NONE && partOfSign() == part; i++) {
         int sign = bytes[at];
         at++;
-        readPart(part + 1, open);
+        readTighter(part, open);
         into.add(Law.DOES + sign);
+      }
+    }
+
+    /** Reads what a part's signs join. */
+    private void readTighter(int part, int open) {
+      if (part < PRODUCT) {
+        readPart(part + 1, open);
+      } else {
+        readOperand(open);
       }
     }
 
@@ -1509,7 +1514,7 @@ public final class DustInOrder {
     }
 
     /** Runs an ACT of BODY n by the body that its KIND from on, or the next above, has. */
-    int run(int n, int from, int act, int x, int depth) {
+    private int run(int n, int from, int act, int x, int depth) {
       int kind = from;
       for (int i = 0; i < KINDS && kind >= 0 && OWN[kind * ACTS + act] == 0; i++) {
         kind = ABOVE[kind];
